@@ -356,7 +356,8 @@ public final class TraceMachines {
         if (!now.has(trace) || !isDepth(k)) {
             return NONE;
         }
-        return takenByOthers(trace, k, guarded) ? 1 : 0;
+        foldOthers(trace, k);
+        return takenByOthers(trace, guarded) ? 1 : 0;
     }
 
     public int fit(int k, int what) {
@@ -493,24 +494,32 @@ public final class TraceMachines {
         return machine;
     }
 
-    private boolean takenByOthers(int trace, int k, boolean guarded) {
+    private void foldOthers(int trace, int k) {
         treeOfOthers.grow(now, trace);
         machineOfOthers.fold(now, treeOfOthers, follows, k);
+    }
+
+    private boolean takenByOthers(int trace, boolean guarded) {
         return machineOfOthers.failsAt(now, trace, slack(guarded), running) == NONE;
     }
 
+    /** A machine of others is far dearer than a run on it: so it is asked both ways at once. */
     private int fitting(int k, boolean guarded) {
-        int at = 2 * k + (guarded ? 1 : 0);
-        if (fits[at] == NONE) {
-            int taken = 0;
+        int free = 2 * k;
+        if (fits[free] == NONE) {
+            fits[free] = 0;
+            fits[free + 1] = 0;
             for (int trace = 0; trace < now.count; trace++) {
-                if (takenByOthers(trace, k, guarded)) {
-                    taken++;
+                foldOthers(trace, k);
+                if (takenByOthers(trace, false)) {
+                    fits[free]++;
+                }
+                if (takenByOthers(trace, true)) {
+                    fits[free + 1]++;
                 }
             }
-            fits[at] = taken;
         }
-        return fits[at];
+        return guarded ? fits[free + 1] : fits[free];
     }
 
     /** TRACES with the DEPTH and the MARGIN by which they are looked at: all that acts change. */

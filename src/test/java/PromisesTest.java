@@ -41,6 +41,7 @@ public final class PromisesTest {
     best();
     keepAndAgain();
     count();
+    foundAnew();
     System.out.println(asked + " answers asked, " + wrong + " not as due");
     if (wrong != 0) System.exit(1);
   }
@@ -884,5 +885,40 @@ public final class PromisesTest {
     due("states by 0", x.count(3), 1);
     due("edges by 0", x.count(4), 3);
     due("final by 0", x.count(5), 1);
+  }
+
+  /** All that is asked is found from what is there when it is asked, whatever was asked before. */
+  private static void foundAnew() {
+    about("terms 3: found when it is asked");
+    TraceMachines x = of("ab;ac;a");
+    x.keep(0);
+    dueFound(x, 3, 3, 3, 0);
+    bring(x, "aa");
+    // 0 "": a; 1 a: a b c $; 2 ab, ac, aa: $
+    dueFound(x, 3, 4, 11, 0);
+    x.depth(0);
+    // b and c are of one trace each: a and aa are taken by others
+    dueFound(x, 1, 3, 3, 2);
+    x.undo();
+    dueFound(x, 3, 4, 11, 0);
+    x.again(0);
+    dueFound(x, 3, 3, 3, 0);
+    x.drop(0);
+    // 0 "": a; 1 a: c $; 2 ac: $
+    dueFound(x, 3, 2, 1, 0);
+    x.drop(0);
+    dueFound(x, 2, 1, 1, 0);
+    TraceMachines y = of("aaa");
+    due("by 1, 2", y.apart(1, 2, NONE), 1);
+    due("by 2, 3", y.apart(2, 3, NONE), 2);
+    due("by 1, 2 again", y.apart(1, 2, NONE), 1);
+    due("by 1, 3", y.apart(1, 3, NONE), 1);
+  }
+
+  private static void dueFound(TraceMachines x, int states, int edges, int cover, int fit) {
+    due("count(3)", x.count(3), states);
+    due("count(4)", x.count(4), edges);
+    due("cover(1)", x.cover(1), cover);
+    due("fit by the DEPTH", x.fit(x.count(6), 0), fit);
   }
 }
