@@ -10,11 +10,11 @@ final class SentencesInFull extends Sentences {
       "cbbeifhjdafh;idfeffddiahe;iaijhijaacag;bfjaghdgied;bfjagghjiabe;ijfbfdeceic;bjjighajdefh",
       "cbbjbgegjgfe;gafiaecdfbjg;djijibi;jbefbhfabdch;ehghgbbjhccb;eddgcejiddgd;hfdbaigjbbbg;jibcbccjjbec",
       "ffjdcggdjecc;ffjdgcgfaaf;acaeeahjfhdb;effjfjbfcfi;ijfbaebedae"};
-  /** By DEPTHS 2 and 3 just 400 twos come ahead of the one that parts. */
+  /** By DEPTHS 2 and 3 just 400 twos come ahead of the one that parts, and from that one others would. */
   static final String[] TWOS_400 = {
-      "abbabeababhb;bbabbbaaaagb;abbbbbehfg;aaabbjbbjage;babbbbfabga;aabaabbaabgb;bbababbbjjib;abbbbafacbca;ababbbaahahb",
-      "bababbbbafha;babaaaieagb;aaabaffbaahb;aabbbbbbedhi;bbbabadbjahb;aaaabbbdcia;aabaaabbabic;babbafbbaecb;bbbaaabaabca",
-      "bbaabbajajgb;bbbaaaeiigb"};
+      "abbbbbbdacb;ababbbajehia;abbbbajbib;aaaabbaaicbf;babbbhaaabch;aabaabbaaacj;bbabbgabjbhb;abbabbjabci;bbabajaagbhh",
+      "bababbbaadf;bbbabajgbhhb;aaabbbaacahb;aabbbbbabia;bbbaabaaci;aaababbbebia;aabaaabbaacb;babbabbaabib;bbbaaabaaaia",
+      "bbaabbbbagca;babaaafbabia"};
   /** By DEPTHS 2 and 3 just 401 twos come ahead of the one that parts. */
   static final String[] TWOS_401 = {
       "bbbabaiafebe;abbbbbjabca;ababbabbageb;aaaabbgbiehb;babbacbbabhb;aabaabbaabca;bbababbbfjje;abbbbacgaaha;babbbfbaahff",
@@ -152,6 +152,7 @@ final class SentencesInFull extends Sentences {
       TraceMachines x = of("a5;a9b1");
       int[] due = {0, 1, 1, 0};
       for (int n = 0; n < 4; n++) due("words(" + n + ")", x.words(n), due[n]);
+      due("no beginnings of such", of("abc").words(2), 0);
       due("taken ones that are no traces, too", of("aaa").words(8), 1);
       due("by two ways one word", of("aaaa;aa").words(4), 1);
     });
@@ -163,7 +164,7 @@ final class SentencesInFull extends Sentences {
       for (int n = 0; n <= 8; n++) due("101 behind 7: words(" + n + ")", y.words(n), due[n]);
     });
     says("apart(): the two of both first sets is the first of the 400;", () -> {
-      due("the 400th parts", parting(of(TWOS_400), 2, 3), "bbbfacb");
+      due("the 400th parts", parting(of(TWOS_400), 2, 3), "bbhaaca");
       due("a 401st", of(TWOS_401).apart(2, 3, NONE), -2);
     });
     says("-2 for each i.", () -> {
@@ -343,6 +344,11 @@ final class SentencesInFull extends Sentences {
       due("by another depth", found(x), found(ofDepth(0, "ab;a")));
       x.again(0);
       due("again", found(x), before);
+      TraceMachines y = of("aaa");
+      due("by 1, 2", y.apart(1, 2, NONE), 1);
+      bring(y, "a");
+      // by 1 all of odd length, by 2 a and aaa alone
+      due("by 1, 2, anew", y.apart(1, 2, NONE), 5);
     });
     says("the latest run() is told till the next one that had no FAULT, whatever is done between.", () -> {
       TraceMachines x = of("abc");

@@ -137,6 +137,8 @@ final class SentencesOfFinds extends Sentences {
       due("whatever DEPTH is", parting(x, 1, 2), "a");
       // by 1 b and c come to one state: bed is taken, by 3 not
       due("by letters", parting(of("bea;cea;ced"), 1, 3), "bed");
+      // by c the same two comes as by b
+      due("by letters", parting(of("caaa;baaa"), 1, 2), "ba");
       due("fewest first, afgd behind that", parting(of("bea;cea;ced;afga;ahga;ahgd"), 1, 3), "bed");
       due("of 8 letters", parting(of("bcdefghaaa"), 1, 2), "bcdefgha");
     });

@@ -173,6 +173,8 @@ final class SentencesOfTerms extends Sentences {
       due("rows of a", y.state(1, 6), 2);
       due("rows of ab", y.state(2, 6), 2);
       due("rows of abc", y.state(3, 6), 1);
+      due("two letters, no third", ofDepth(2, "abc;abd").state(0, 6), 1);
+      due("three letters", ofDepth(3, "abc;abd").state(0, 6), 2);
       due("of traces that begin with it alone", of("ab;cd").state(1, 6), 1);
       due("like rows are one", of("ab;ab").state(0, 6), 1);
     });
@@ -257,10 +259,12 @@ final class SentencesOfTerms extends Sentences {
     says("and its RANGE, the least and the greatest VALUE of these CALLS.", () -> {
       due("of one", edge(of("a7"), 0), "0 a 1, 1 of 7 to 7");
       due("of three", edge(of("a50;a99;a7"), 0), "0 a 1, 3 of 7 to 99");
+      due("of three, the other way", edge(of("a50;a7;a99;a8"), 0), "0 a 1, 4 of 7 to 99");
       due("without a value 0", edge(of("a5;a"), 0), "0 a 1, 2 of 0 to 5");
       TraceMachines x = of("a3a0a9");
       due("of these alone", edge(x, 0), "0 a 0, 2 of 0 to 3");
       due("of these alone", edge(x, 1), "0 a 1, 1 of 9 to 9");
+      due("of two prefixes, the other way", edge(of("a0a3a9"), 0), "0 a 0, 2 of 0 to 3");
       due("99 alone", edge(of("a99"), 0), "0 a 1, 1 of 99 to 99");
     });
     says("In order: by STATE, LETTER, STATE.", () -> {

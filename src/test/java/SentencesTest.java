@@ -46,6 +46,12 @@ public final class SentencesTest {
     return faults;
   }
 
+  /** What was not as due of one sentence; null: all was. */
+  static String faultOf(String name) {
+    for (Sentences.Sentence s : all()) if (s.name().equals(name)) return s.fault();
+    return "no such sentence";
+  }
+
   /** Every quote stands below its heading, and all words below the headings are quoted. */
   private static void lookAtDocument(List<Sentences.Sentence> all) throws IOException {
     Map<String, StringBuilder> left = sections();
