@@ -16,6 +16,7 @@ import java.util.regex.Pattern;
 /** The public face, and those rules of LANGUAGE.md that can be seen in the classes or in the source. */
 public final class FaceTest {
   private static final Path SOURCE = Path.of("src/main/java/TraceMachines.java");
+  private static final Path DOCUMENT = Path.of("../shared/DOC.md");
   private static final String[] FACE = {"int sign(int)", "boolean end(int)", "int traces()", "int drop(int)",
       "int depth(int)", "int margin(int)", "int undo()", "int call(int,int,int)", "int state(int,int)",
       "int edge(int,int)", "int vague(int)", "int run(boolean)", "int ran(int)", "int cover(int)", "int ways(int)",
@@ -29,6 +30,7 @@ public final class FaceTest {
     fields();
     inside();
     source();
+    faceOfDocument();
     System.out.println("the face and the source: " + wrong + " wrong");
     if (wrong != 0) System.exit(1);
   }
@@ -110,6 +112,31 @@ public final class FaceTest {
         .containsAll(library), "library: " + library);
     must(count(code, "throw new") == 1, "one throw");
     must(longestMethod(all) <= 60, "methods of sixty lines at most: " + longestMethod(all));
+  }
+
+  /** Each line of the document's face, and each heading that it wants ahead of calls, in the document's order. */
+  private static void faceOfDocument() throws IOException {
+    String document = Files.readString(DOCUMENT);
+    String all = Files.readString(SOURCE);
+    int at = 0;
+    Matcher m = Pattern.compile("\n    (public [^;\n]+);").matcher(document);
+    int lines = 0;
+    while (m.find()) {
+      boolean constant = m.group(1).contains(" = ");
+      int found = all.indexOf("\n    " + m.group(1) + (constant ? ";" : " {"), at);
+      must(found >= 0, "in its order: " + m.group(1));
+      at = Math.max(at, found);
+      lines++;
+    }
+    must(lines == FACE.length + 2, "the face of the document has so many lines: " + lines);
+    m = Pattern.compile("Ahead of the calls `(\\w+)`.* the interface says: (---- .+)\\.\n").matcher(document);
+    int headings = 0;
+    while (m.find()) {
+      String ahead = "    // " + Pattern.quote(m.group(2)) + "\n\n    public \\w+ " + m.group(1) + "\\(";
+      must(Pattern.compile(ahead).matcher(all).find(), m.group(2) + " stands ahead of " + m.group(1));
+      headings++;
+    }
+    must(headings == 6, "the document wants so many headings: " + headings);
   }
 
   private static int count(String code, String what) { return code.split(Pattern.quote(what), -1).length - 1; }
